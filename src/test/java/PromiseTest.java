@@ -320,6 +320,8 @@ public final class PromiseTest {
         drying(10, 35, 9999, 9);
         drying(10, 35, 10309, 9);
         drying(10, 35, 10310, 10);
+        drying(13, 95, 11111, 0);
+        drying(13, 95, 11112, 1);
     }
 
     private static void daysAndHeat() {
@@ -494,6 +496,10 @@ public final class PromiseTest {
         Check.refused(x, "days x", 5);
         Check.refused(x, "day 1", 0);
         Check.refused(x, "dayss 1", 0);
+        Check.refused(x, "xays 1", 0);
+        Check.refused(x, "dayx 1", 0);
+        Check.refused(x, "sald 1", 0);
+        Check.refused(x, "weighs 1", 0);
         Check.refused(x, "  loose 1", 2);
         Check.refused(x, "Days 1", 0);
         Check.refused(x, "dayS 1", 0);
@@ -681,6 +687,26 @@ public final class PromiseTest {
         Check.due("50 of 100", x.seal(0), 5);
         Check.rules(x, "loss 1");
         Check.due("50 of 50", x.seal(0), 0);
+
+        HamCellar y = cellar();
+        y.leg(0, 0, 15000);
+        y.hang(0, 0, 0);
+        y.days(10);
+        y.hang(0, 1, 0);
+        y.air(1, 1, 10);
+        y.days(1);
+        Check.due("149 grams lost", y.look(0, 0), 14851);
+        Check.rules(y, "loss 1");
+        Check.due("149 of 150", y.seal(0), 5);
+        y.days(1);
+        Check.due("157 of 150", y.seal(0), 0);
+
+        HamCellar z = cellar();
+        z.leg(0, 0, 5000);
+        Check.rules(z, "loss 100");
+        Check.due("nothing lost", z.seal(0), 5);
+        Check.rules(z, "loss 0");
+        Check.due("nothing lost, nothing asked", z.seal(0), 0);
     }
 
     private static void sealOrder() {
