@@ -102,6 +102,7 @@ public final class BoundaryTest {
         roomsToBe();
         hooksToldForTwo();
         notToldInTheWay();
+        hangThereNoMore();
         fullRooms();
         saltIsNoHelp();
         ringsAndRows();
@@ -1178,6 +1179,29 @@ public final class BoundaryTest {
         x.should(0, 1, 0);
         x.should(1, 1, 1);
         Check.due("all hang where they should", x.moves(), 0);
+    }
+
+    /** (LEGS that hang there no more, or in ROOM 0, as it is asked, count for nothing.) */
+    private static void hangThereNoMore() {
+        HamCellar x = sealed(5000, 6000, 7000);
+        x.should(0, 1, 1);
+        x.take(0);
+        Check.due("on the table, so that 1 is in nobody's way", x.moves(), 0);
+        Check.due("told no more", x.count(9), 0);
+        x.hang(0, 1, 0);
+        x.should(0, 1, 1);
+        x.hang(0, 0, 0);
+        Check.due("in the salt", x.moves(), 0);
+        x.hang(0, 1, 0);
+        x.should(0, 1, 1);
+        x.should(2, 4, 4);
+        x.order(5000);
+        Check.due("told still, though sold", x.count(9), 2);
+        Check.due("sold: the other's move alone", x.moves(), 1);
+        x.should(1, 1, 2);
+        x.should(2, 1, 1);
+        x.take(2);
+        Check.due("the other half of a ring is gone", x.moves(), 1);
     }
 
     /** None, if no such row of moves is possible: all hooks but those of the salt are full */
