@@ -38,6 +38,7 @@ public final class PromiseTest {
         orderChoosesAmong();
         orderOfSeveral();
         count();
+        readme();
         Check.close("PromiseTest");
     }
 
@@ -987,5 +988,23 @@ public final class PromiseTest {
         for (int what : new int[] {-1, 10, LEAST, MOST}) {
             Check.due("count of " + what, x.count(what), NONE);
         }
+    }
+
+    /** The rows that README.md shows, with the answers that it tells. */
+    private static void readme() {
+        HamCellar x = cellar();
+        int leg = x.leg(3, 7, 10000);
+        Check.due("readme leg", leg, 0);
+        Check.due("readme hang in salt", x.hang(leg, 0, 2), true);
+        Check.due("readme days", x.days(12), 12);
+        Check.due("readme hang to dry", x.hang(leg, 1, 0), true);
+        Check.due("readme feed", x.feed(0x73616c74, 0x20313000, 0, 0, 0), 20);
+        Check.due("readme end", x.end(7), true);
+        Check.due("readme rules", x.rules(), 1);
+        Check.due("readme seal", x.seal(leg), 0);
+        Check.due("readme should", x.should(leg, 2, 4), true);
+        Check.due("readme moves", x.moves(), 1);
+        Check.due("readme order", x.order(5000), 1);
+        Check.due("readme order again", x.order(5000), NONE);
     }
 }
